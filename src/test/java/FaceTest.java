@@ -75,8 +75,8 @@ public final class FaceTest {
     private static void wordsThatAreRuledOut() throws IOException {
         String source = Files.readString(Path.of("src/main/java/SkyBulletin.java"));
         String code = source.replaceAll("(?s)/\\*.*?\\*/", "").replaceAll("//.*", "");
-        Matcher word = Pattern.compile("\\b(throw|throws|try|catch|synchronized|assert|import|package|hashCode|toString"
-                + "|new Object|->|::)\\b").matcher(code);
+        Matcher word = Pattern.compile("\\b(throw|throws|try|catch|synchronized|assert|import|package|hashCode"
+                + "|toString|Object)\\b|->|::").matcher(code);
         due.is("a word that is ruled out", word.find() ? word.group() : "none", "none");
         for (char one : source.toCharArray()) {
             if (one > 126) {

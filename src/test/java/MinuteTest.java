@@ -18,6 +18,7 @@ public final class MinuteTest {
         nextTurns();
         hiddenTurns();
         exchangeOfActive();
+        olderChangesAreGone();
         due.end("MinuteTest");
     }
 
@@ -171,5 +172,27 @@ public final class MinuteTest {
         due.is("one ends as another begins", x.next(BEGIN), DAY + 480);
         due.is("the other ends", x.next(DAY + 480), DAY + 600);
         due.is("no more", x.next(DAY + 600), -1);
+    }
+
+    /** The object may use its rows again: what three texts before had told must not come through. */
+    private static void olderChangesAreGone() {
+        String changes = "FM150800 VRB01KT 4000 OVC001 BECMG 1506/1507 3000 OVC001 TEMPO 1506/1518 0100 VV000 "
+                + "PROB30 1507/1508 0100 VV000";
+        SkyBulletin x = due.having(HEAD + changes, 31);
+        for (int i = 0; i < 3; i++) {
+            due.is("with changes", Due.readInto(x, HEAD + changes, 31), 0);
+        }
+        for (int i = 0; i < 3; i++) {
+            due.is("without changes", Due.readInto(x, HEAD, 31), 0);
+            from(x, DAY + 480, 0, 0, 0, 0);
+            due.is("active", x.active(DAY + 480), 0);
+            due.is("activeOne", x.activeOne(DAY + 480, 0), -1);
+            due.is("least", x.least(DAY + 480), 5000);
+            due.is("ceiling", x.ceiling(DAY + 480, 1), 20);
+            due.is("next", x.next(BEGIN), -1);
+        }
+        due.is("with one change", Due.readInto(x, HEAD + "BECMG 1508/1509 NSW", 31), 0);
+        due.is("its end alone", x.next(BEGIN), DAY + 540);
+        due.is("and none else", x.next(DAY + 540), -1);
     }
 }

@@ -117,6 +117,8 @@ public final class TypeReadTest {
         due.reads("  METAR   EDDM 021320Z  24015KT CAVOK  M02/M05 Q0998   ", 31, 0);
         due.refuses(CALM + "CAVOK" + TAIL + " ^Q0998", 31);
         due.refuses(CALM + "CAVOK" + TAIL + " ^TEMPO", 31);
+        due.refuses(CALM + "CAVOK" + TAIL + " ^X", 31);
+        due.refuses(FORECAST + "^X", 31);
         due.refuses("METAR EDDM 021320Z ^0212/0224 24015KT CAVOK" + TAIL, 31);
         due.refuses("TAF EDDM 021320Z ^24015KT CAVOK", 31);
         due.refuses("TAF EDDM 021320Z 0214/0224 24015KT CAVOK ^M02/M05", 31);
