@@ -39,9 +39,7 @@ public final class SkyBulletin {
     private final char[] printed = new char[MOST_TYPED];
     private int printedLength = 0;
     private Bulletin kept = new Bulletin();
-    /** What is being read: a text that can't stand must leave the kept one as it was. */
-    private Bulletin draft = new Bulletin();
-    private final Reader reader = new Reader(typed, draft);
+    private final Reader reader = new Reader();
 
     public SkyBulletin() {
     }
@@ -67,12 +65,10 @@ public final class SkyBulletin {
         if (days < 28 || days > 31) {
             return NONE;
         }
-        int place = reader.readText(typed, typedLength, days, draft);
+        int place = reader.readText(typed, typedLength, days);
         typedLength = 0;
         if (place == 0) {
-            Bulletin before = kept;
-            kept = draft;
-            draft = before;
+            kept = reader.exchange(kept);
         }
         return place;
     }
@@ -192,8 +188,8 @@ public final class SkyBulletin {
         if (kept.kind == 0) {
             return 1;
         }
-        int place = reader.readText(kept.text, kept.textLength, kept.days, draft);
-        return place == 0 && kept.sameAs(draft) && kept.eachMinuteTells() ? 1 : 0;
+        int place = reader.readText(kept.text, kept.textLength, kept.days);
+        return place == 0 && kept.sameAs(reader.draft) && kept.eachMinuteTells() ? 1 : 0;
     }
 
     private static int byteOf(long characters, int fromLowest) {
@@ -533,7 +529,7 @@ public final class SkyBulletin {
         /** More than the longest token that can stand has. */
         private static final int TOKEN_ROOM = 16;
 
-        private char[] source;
+        private char[] source = new char[0];
         private int length = 0;
         private int tokenBegin = 0;
         /** 0 when the text has ended. */
@@ -542,37 +538,39 @@ public final class SkyBulletin {
         private final char[] token = new char[TOKEN_ROOM];
         private int days = 0;
         private int latestFrom = NONE;
-        private Bulletin target;
+        /** What is being read: a text that can't stand must leave the kept one as it was. */
+        private Bulletin draft = new Bulletin();
 
-        Reader(char[] firstSource, Bulletin firstTarget) {
-            source = firstSource;
-            target = firstTarget;
+        /** Hands out what was read, and takes one that is not kept any more to read into. */
+        Bulletin exchange(Bulletin spare) {
+            Bulletin read = draft;
+            draft = spare;
+            return read;
         }
 
         /** 0, or the place of the first token that can't stand. */
-        int readText(char[] text, int textLength, int monthDays, Bulletin into) {
+        int readText(char[] text, int textLength, int monthDays) {
             source = text;
             length = Math.min(textLength, text.length);
             days = monthDays;
             latestFrom = NONE;
-            target = into;
-            target.start(monthDays);
+            draft.start(monthDays);
             tokenBegin = 0;
             width = 0;
             takeToken();
-            boolean stands = takeHead() && (target.kind == REPORT ? takeReport() : takeForecast());
+            boolean stands = takeHead() && (draft.kind == REPORT ? takeReport() : takeForecast());
             if (!stands || width > 0) {
                 return tokenBegin + 1;
             }
-            target.keepTokens(source, length);
+            draft.keepTokens(source, length);
             return 0;
         }
 
         private boolean takeHead() {
             if (takeWord("METAR")) {
-                target.kind = REPORT;
+                draft.kind = REPORT;
             } else if (takeWord("TAF")) {
-                target.kind = FORECAST;
+                draft.kind = FORECAST;
             } else {
                 return false;
             }
@@ -580,17 +578,17 @@ public final class SkyBulletin {
         }
 
         private boolean takeReport() {
-            return takeWhole(target.groups[0]) && takeTemperatures() && takePressure();
+            return takeWhole(draft.groups[0]) && takeTemperatures() && takePressure();
         }
 
         private boolean takeForecast() {
-            if (!takeForecastPeriod(target.groups[0]) || !takeWhole(target.groups[0])) {
+            if (!takeForecastPeriod(draft.groups[0]) || !takeWhole(draft.groups[0])) {
                 return false;
             }
             boolean stands = true;
             for (int g = 1; g < MOST_GROUPS && width > 0 && stands; g++) {
-                target.addGroup();
-                Group change = target.groups[g];
+                draft.addGroup();
+                Group change = draft.groups[g];
                 stands = takeFromTime(change)
                         ? takeWhole(change)
                         : takeChangeName(change) && takeChangePeriod(change) && takeParts(change);
@@ -658,38 +656,38 @@ public final class SkyBulletin {
                 if (token[i] < 'A' || token[i] > 'Z') {
                     return false;
                 }
-                target.station[i] = token[i];
+                draft.station[i] = token[i];
             }
             return takeToken();
         }
 
         private boolean takeIssue() {
-            target.issue = timeAt(0);
-            return width == 7 && token[6] == 'Z' && target.issue != NONE && takeToken();
+            draft.issue = timeAt(0);
+            return width == 7 && token[6] == 'Z' && draft.issue != NONE && takeToken();
         }
 
         private boolean takeTemperatures() {
             int cut = token[0] == 'M' ? 3 : 2;
             int end = token[cut + 1] == 'M' ? cut + 4 : cut + 3;
-            target.temperature = degreesAt(0);
-            target.dewPoint = degreesAt(cut + 1);
-            return width == end && token[cut] == '/' && target.temperature != NOT_TOLD
-                    && target.dewPoint != NOT_TOLD && takeToken();
+            draft.temperature = degreesAt(0);
+            draft.dewPoint = degreesAt(cut + 1);
+            return width == end && token[cut] == '/' && draft.temperature != NOT_TOLD
+                    && draft.dewPoint != NOT_TOLD && takeToken();
         }
 
         private boolean takePressure() {
-            target.pressure = digits(1, 4);
-            return width == 5 && token[0] == 'Q' && target.pressure != NONE && takeToken();
+            draft.pressure = digits(1, 4);
+            return width == 5 && token[0] == 'Q' && draft.pressure != NONE && takeToken();
         }
 
         private boolean takeForecastPeriod(Group forecast) {
-            int issueDay = target.issue - target.issue % DAY;
+            int issueDay = draft.issue - draft.issue % DAY;
             return findPeriod(forecast, issueDay)
                     && forecast.end - forecast.begin <= LONGEST_PERIOD && takeToken();
         }
 
         private boolean takeChangePeriod(Group change) {
-            Group forecast = target.groups[0];
+            Group forecast = draft.groups[0];
             return findPeriod(change, forecast.begin)
                     && change.begin >= forecast.begin && change.end <= forecast.end && takeToken();
         }
@@ -708,7 +706,7 @@ public final class SkyBulletin {
         }
 
         private boolean takeFromTime(Group change) {
-            Group forecast = target.groups[0];
+            Group forecast = draft.groups[0];
             int time = timeAt(2);
             if (width != 8 || !holds(0, "FM") || time == NONE) {
                 return false;

@@ -22,7 +22,7 @@ public final class MinuteTest {
         due.end("MinuteTest");
     }
 
-    private static void noneAt(SkyBulletin x, int minute) {
+    private static void noneAt(Sky x, int minute) {
         for (int what = 0; what < 4; what++) {
             due.is("from(" + minute + ", " + what + ")", x.from(minute, what), -1);
         }
@@ -34,21 +34,21 @@ public final class MinuteTest {
         due.is("next(" + minute + ")", x.next(minute), -1);
     }
 
-    private static void from(SkyBulletin x, int minute, int... wants) {
+    private static void from(Sky x, int minute, int... wants) {
         for (int what = 0; what < wants.length; what++) {
             due.is("from(" + minute + ", " + what + ")", x.from(minute, what), wants[what]);
         }
     }
 
     private static void noForecast() {
-        noneAt(new SkyBulletin(), 0);
-        SkyBulletin x = due.having("METAR EDDM 150000Z 24010KT 5000 BKN020 10/05 Q1000", 31);
+        noneAt(new Sky(), 0);
+        Sky x = due.having("METAR EDDM 150000Z 24010KT 5000 BKN020 10/05 Q1000", 31);
         noneAt(x, 0);
         noneAt(x, DAY);
     }
 
     private static void edgesOfThePeriod() {
-        SkyBulletin x = due.having(HEAD + "TEMPO 1506/1518 0100 VV001 BECMG 1506/1507 CAVOK", 31);
+        Sky x = due.having(HEAD + "TEMPO 1506/1518 0100 VV001 BECMG 1506/1507 CAVOK", 31);
         noneAt(x, BEGIN - 1);
         noneAt(x, END);
         noneAt(x, Integer.MIN_VALUE);
@@ -66,7 +66,7 @@ public final class MinuteTest {
     }
 
     private static void fromAndBecoming() {
-        SkyBulletin x = due.having(HEAD + "FM150830 VRB01KT 6000 NSC BECMG 1509/1510 36020KT NSW "
+        Sky x = due.having(HEAD + "FM150830 VRB01KT 6000 NSC BECMG 1509/1510 36020KT NSW "
                 + "BECMG 1511/1512 7000 BECMG 1512/1513 SCT010 TEMPO 1506/1518 CAVOK PROB30 1506/1518 CAVOK", 31);
         from(x, DAY + 509, 0, 0, 0, 0);
         from(x, DAY + 510, 1, 1, 1, 1);
@@ -79,7 +79,7 @@ public final class MinuteTest {
     }
 
     private static void orderOfTheText() {
-        SkyBulletin x = due.having(HEAD + "BECMG 1509/1512 CAVOK FM151000 VRB01KT 6000 NSC BECMG 1507/1508 7000", 31);
+        Sky x = due.having(HEAD + "BECMG 1509/1512 CAVOK FM151000 VRB01KT 6000 NSC BECMG 1507/1508 7000", 31);
         from(x, DAY + 479, 0, 0, 0, 0);
         from(x, DAY + 480, 0, 3, 0, 0);
         from(x, DAY + 600, 2, 3, 2, 2);
@@ -87,13 +87,13 @@ public final class MinuteTest {
     }
 
     private static void becomingAtTheEnd() {
-        SkyBulletin x = due.having(HEAD + "BECMG 1516/1518 CAVOK", 31);
+        Sky x = due.having(HEAD + "BECMG 1516/1518 CAVOK", 31);
         from(x, END - 1, 0, 0, 0, 0);
         due.is("next(BEGIN)", x.next(BEGIN), -1);
     }
 
     private static void activeGroups() {
-        SkyBulletin x = due.having(HEAD + "TEMPO 1508/1510 NSW FM150800 24010KT CAVOK PROB30 1509/1512 NSW "
+        Sky x = due.having(HEAD + "TEMPO 1508/1510 NSW FM150800 24010KT CAVOK PROB30 1509/1512 NSW "
                 + "BECMG 1509/1512 NSW PROB40 TEMPO 1507/1511 NSW", 31);
         due.is("active at 6:59", x.active(DAY + 419), 0);
         due.is("activeOne at 6:59", x.activeOne(DAY + 419, 0), -1);
@@ -115,7 +115,7 @@ public final class MinuteTest {
     }
 
     private static void leastVisibility() {
-        SkyBulletin x = due.having(HEAD + "TEMPO 1508/1510 0000 PROB30 1509/1512 CAVOK TEMPO 1510/1512 NSW "
+        Sky x = due.having(HEAD + "TEMPO 1508/1510 0000 PROB30 1509/1512 CAVOK TEMPO 1510/1512 NSW "
                 + "BECMG 1512/1513 CAVOK TEMPO 1513/1514 9999", 31);
         due.is("least at 7:59", x.least(DAY + 479), 5000);
         due.is("least at 8:00", x.least(DAY + 480), 0);
@@ -126,7 +126,7 @@ public final class MinuteTest {
     }
 
     private static void ceilings() {
-        SkyBulletin x = due.having("TAF LFPG 150500Z 1506/1518 24010KT 5000 FEW001 SCT002CB BKN020TCU OVC030 "
+        Sky x = due.having("TAF LFPG 150500Z 1506/1518 24010KT 5000 FEW001 SCT002CB BKN020TCU OVC030 "
                 + "TEMPO 1508/1510 VV000 PROB30 1509/1511 OVC040 TEMPO 1511/1512 FEW003 BKN015CB BECMG 1512/1513 FEW001 "
                 + "TEMPO 1514/1515 OVC999 TEMPO 1515/1516 SCT001 BECMG 1515/1516 VV999", 31);
         ceiling(x, 420, 20, 20);
@@ -140,13 +140,13 @@ public final class MinuteTest {
         ceiling(x, 960, 999, 999);
     }
 
-    private static void ceiling(SkyBulletin x, int minute, int sky, int withActive) {
+    private static void ceiling(Sky x, int minute, int sky, int withActive) {
         due.is("ceiling(" + minute + ", 0)", x.ceiling(DAY + minute, 0), sky);
         due.is("ceiling(" + minute + ", 1)", x.ceiling(DAY + minute, 1), withActive);
     }
 
     private static void nextTurns() {
-        SkyBulletin x = due.having(HEAD + "FM150600 24010KT CAVOK TEMPO 1508/1510 NSW BECMG 1509/1512 NSW "
+        Sky x = due.having(HEAD + "FM150600 24010KT CAVOK TEMPO 1508/1510 NSW BECMG 1509/1512 NSW "
                 + "FM151330 24010KT CAVOK PROB30 1516/1518 NSW", 31);
         int[] turns = {480, 600, 720, 810, 960};
         int at = BEGIN;
@@ -160,7 +160,7 @@ public final class MinuteTest {
     }
 
     private static void hiddenTurns() {
-        SkyBulletin x = due.having(HEAD + "BECMG 1509/1512 CAVOK FM151000 24010KT CAVOK BECMG 1510/1511 9999 "
+        Sky x = due.having(HEAD + "BECMG 1509/1512 CAVOK FM151000 24010KT CAVOK BECMG 1510/1511 9999 "
                 + "BECMG 1510/1511 8000", 31);
         due.is("BECMG's beginning is no turn", x.next(BEGIN), DAY + 600);
         due.is("two at a time", x.next(DAY + 600), DAY + 660);
@@ -168,7 +168,7 @@ public final class MinuteTest {
     }
 
     private static void exchangeOfActive() {
-        SkyBulletin x = due.having(HEAD + "TEMPO 1506/1508 NSW TEMPO 1508/1510 NSW", 31);
+        Sky x = due.having(HEAD + "TEMPO 1506/1508 NSW TEMPO 1508/1510 NSW", 31);
         due.is("one ends as another begins", x.next(BEGIN), DAY + 480);
         due.is("the other ends", x.next(DAY + 480), DAY + 600);
         due.is("no more", x.next(DAY + 600), -1);
@@ -178,12 +178,12 @@ public final class MinuteTest {
     private static void olderChangesAreGone() {
         String changes = "FM150800 VRB01KT 4000 OVC001 BECMG 1506/1507 3000 OVC001 TEMPO 1506/1518 0100 VV000 "
                 + "PROB30 1507/1508 0100 VV000";
-        SkyBulletin x = due.having(HEAD + changes, 31);
+        Sky x = due.having(HEAD + changes, 31);
         for (int i = 0; i < 3; i++) {
-            due.is("with changes", Due.readInto(x, HEAD + changes, 31), 0);
+            due.is("with changes", x.readText(HEAD + changes, 31), 0);
         }
         for (int i = 0; i < 3; i++) {
-            due.is("without changes", Due.readInto(x, HEAD, 31), 0);
+            due.is("without changes", x.readText(HEAD, 31), 0);
             from(x, DAY + 480, 0, 0, 0, 0);
             due.is("active", x.active(DAY + 480), 0);
             due.is("activeOne", x.activeOne(DAY + 480, 0), -1);
@@ -191,7 +191,7 @@ public final class MinuteTest {
             due.is("ceiling", x.ceiling(DAY + 480, 1), 20);
             due.is("next", x.next(BEGIN), -1);
         }
-        due.is("with one change", Due.readInto(x, HEAD + "BECMG 1508/1509 NSW", 31), 0);
+        due.is("with one change", x.readText(HEAD + "BECMG 1508/1509 NSW", 31), 0);
         due.is("its end alone", x.next(BEGIN), DAY + 540);
         due.is("and none else", x.next(DAY + 540), -1);
     }

@@ -11,46 +11,45 @@ public final class PrintCheckTest {
         latestPrint();
         charactersThatAreNot();
         checking();
-        longest();
         due.end("PrintCheckTest");
     }
 
     private static void printing() {
         for (String text : new String[] {REPORT, FORECAST, REPORT.replace("M00/00", "00/M00")}) {
-            SkyBulletin x = due.having(text, 30);
+            Sky x = due.having(text, 30);
             due.is("print()", x.print(), text.length());
-            due.is("printed", Due.printed(x), text);
+            due.is("printed", x.printed(), text);
         }
         String overMidnight = "TAF LFPG 302300Z 3023/0124 00000KT CAVOK TEMPO 3023/3024 NSW TEMPO 3023/0100 NSW FM010000 00000KT CAVOK";
-        due.is("printed", Due.printed(due.having(overMidnight, 30)), overMidnight);
+        due.is("printed", due.having(overMidnight, 30).printed(), overMidnight);
     }
 
     private static void blanks() {
-        SkyBulletin x = due.having("   " + REPORT.replace(" ", "    ") + "   ", 31);
-        due.is("one blank between", Due.printed(x), REPORT);
+        Sky x = due.having("   " + REPORT.replace(" ", "    ") + "   ", 31);
+        due.is("one blank between", x.printed(), REPORT);
         due.is("print()", x.print(), REPORT.length());
         due.is("check()", x.check(), 1);
     }
 
     private static void latestPrint() {
-        SkyBulletin x = due.having(REPORT, 31);
+        Sky x = due.having(REPORT, 31);
         due.is("not printed yet", x.character(0), -1);
-        due.is("first", Due.printed(x), REPORT);
-        due.is("another one", Due.readInto(x, FORECAST, 31), 0);
-        due.is("the latest print stays", Due.characters(x, REPORT.length()), REPORT);
+        due.is("first", x.printed(), REPORT);
+        due.is("another one", x.readText(FORECAST, 31), 0);
+        due.is("the latest print stays", x.characters(REPORT.length()), REPORT);
         due.is("and its end", x.character(REPORT.length()), -1);
         due.is("check()", x.check(), 1);
         due.is("check prints nothing", x.character(0), 'M');
-        due.is("second", Due.printed(x), FORECAST);
-        due.is("a short one", Due.readInto(x, "METAR EDDM 021320Z VRB15KT CAVOK 00/00 Q0098", 31), 0);
+        due.is("second", x.printed(), FORECAST);
+        due.is("a short one", x.readText("METAR EDDM 021320Z VRB15KT CAVOK 00/00 Q0098", 31), 0);
         due.is("print()", x.print(), 44);
         due.is("nothing of a longer one is left", x.character(44), -1);
-        due.is("a wrong one", Due.readInto(x, "TAF", 31), 4);
+        due.is("a wrong one", x.readText("TAF", 31), 4);
         due.is("changes no print", x.print(), 44);
     }
 
     private static void charactersThatAreNot() {
-        SkyBulletin x = due.having(REPORT, 31);
+        Sky x = due.having(REPORT, 31);
         int length = x.print();
         due.is("character(0)", x.character(0), 'M');
         due.is("the last one", x.character(length - 1), '8');
@@ -60,31 +59,16 @@ public final class PrintCheckTest {
     }
 
     private static void checking() {
-        due.is("check() of nothing", new SkyBulletin().check(), 1);
+        due.is("check() of nothing", new Sky().check(), 1);
         due.is("check() of a report", due.having(REPORT, 31).check(), 1);
-        SkyBulletin x = due.having(FORECAST, 30);
-        Due.put(x, "METAR");
+        Sky x = due.having(FORECAST, 30);
+        x.put("METAR");
         due.is("check() of a forecast", x.check(), 1);
         due.is("the typed text stays", x.type('S', 1), 6);
         due.is("what was read stays", x.told(1), 6);
         due.is("check() again", x.check(), 1);
         due.is("a wrong one", x.read(30), 1);
         due.is("check() after a wrong one", x.check(), 1);
-        due.is("printed after it", Due.printed(x), FORECAST);
-    }
-
-    private static void longest() {
-        StringBuilder text = new StringBuilder("TAF LFPG 301100Z 3012/3118 VRB10G20KT 9999 ");
-        String sky = "VCTSRASNGR VCTSRASNGR VCTSRASNGR ";
-        text.append(sky).append("FEW001TCU FEW001TCU FEW001TCU FEW001TCU");
-        for (int i = 0; i < 6; i++) {
-            text.append(" PROB30 TEMPO 3015/3016 VRB10G20KT 9999 ").append(sky).append("FEW001TCU");
-        }
-        while (text.length() < 700) {
-            text.append(' ');
-        }
-        SkyBulletin x = due.having(text.toString(), 31);
-        due.is("printed", Due.printed(x), text.toString().trim());
-        due.is("check()", x.check(), 1);
+        due.is("printed after it", x.printed(), FORECAST);
     }
 }

@@ -5,12 +5,10 @@ import java.util.List;
 /** Compares the class with the reference over many made-up texts, right ones and spoilt ones. */
 public final class ReferenceTest {
     private static final int ROUNDS = 6000;
-    private static final int MOST_CALLS = 512;
     private static final Due due = new Due();
     /** A row of numbers that is the same in each run. */
     private static long seed = 20261115;
 
-    private static int calls;
     private static int stood;
     private static int forecasts;
 
@@ -24,8 +22,7 @@ public final class ReferenceTest {
     }
 
     private static void oneObject() {
-        SkyBulletin x = new SkyBulletin();
-        calls = 0;
+        Sky x = new Sky();
         Reference kept = null;
         for (int i = 0; i < 2; i++) {
             int days = 28 + upTo(4);
@@ -38,8 +35,7 @@ public final class ReferenceTest {
                 continue;
             }
             Reference read = new Reference(text, days);
-            calls += text.length() / 8 + 2;
-            due.is("read(" + days + ") of '" + text + "'", Due.readInto(x, text, days), read.place);
+            due.is("read(" + days + ") of '" + text + "'", x.readText(text, days), read.place);
             kept = read.place == 0 ? read : kept;
         }
         if (kept != null) {
@@ -50,13 +46,10 @@ public final class ReferenceTest {
     }
 
     private static void ask(String call, Reference kept, long got, long want) {
-        calls++;
-        if (calls <= MOST_CALLS) {
-            due.is(got == want ? call : call + " of '" + kept.printed() + "'", got, want);
-        }
+        due.is(got == want ? call : call + " of '" + kept.printed() + "'", got, want);
     }
 
-    private static void compare(SkyBulletin x, Reference kept) {
+    private static void compare(Sky x, Reference kept) {
         ask("print()", kept, x.print(), kept.printed().length());
         ask("check()", kept, x.check(), 1);
         int i = upTo(kept.printed().length());
@@ -72,7 +65,7 @@ public final class ReferenceTest {
         ask("group(count, 0)", kept, x.group(kept.parts.size(), 0), -1);
     }
 
-    private static void compareTold(SkyBulletin x, Reference kept) {
+    private static void compareTold(Sky x, Reference kept) {
         boolean report = kept.kind == 1;
         int[] wants = {kept.kind, kept.parts.size(), kept.issue, report ? kept.degrees[0] : -1001,
             report ? kept.degrees[1] : -1001, report ? kept.pressure : -1001, kept.station.charAt(0),
@@ -82,7 +75,7 @@ public final class ReferenceTest {
         }
     }
 
-    private static void compareGroup(SkyBulletin x, Reference kept, int g) {
+    private static void compareGroup(Sky x, Reference kept, int g) {
         Reference.Part part = kept.parts.get(g);
         int[] wind = part.wind == null ? new int[] {-1, -1, -1} : part.wind;
         int[] wants = {part.kind, part.chance, part.from, part.to, wind[0], wind[1], wind[2],
@@ -106,7 +99,7 @@ public final class ReferenceTest {
         return (upTo(2) == 0 ? part.from : part.to) + upTo(3) - 1;
     }
 
-    private static void compareMinute(SkyBulletin x, Reference kept, int minute) {
+    private static void compareMinute(Sky x, Reference kept, int minute) {
         boolean in = kept.covers(minute);
         String at = "(" + minute + ", ";
         for (int what = 0; what < 4; what++) {

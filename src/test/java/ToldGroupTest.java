@@ -20,7 +20,7 @@ public final class ToldGroupTest {
         due.end("ToldGroupTest");
     }
 
-    private static void told(SkyBulletin x, int... wants) {
+    private static void told(Sky x, int... wants) {
         for (int what = 0; what < wants.length; what++) {
             due.is("told(" + what + ")", x.told(what), wants[what]);
         }
@@ -29,7 +29,7 @@ public final class ToldGroupTest {
         }
     }
 
-    private static void group(SkyBulletin x, int g, int... wants) {
+    private static void group(Sky x, int g, int... wants) {
         for (int what = 0; what < wants.length; what++) {
             due.is("group(" + g + ", " + what + ")", x.group(g, what), wants[what]);
         }
@@ -39,17 +39,17 @@ public final class ToldGroupTest {
     }
 
     private static void reportTold() {
-        SkyBulletin x = due.having(REPORT, 28);
+        Sky x = due.having(REPORT, 28);
         told(x, 1, 1, 1440 + 13 * 60 + 20, -2, 5, 998, 'E', 'D', 'D', 'M');
     }
 
     private static void forecastTold() {
-        SkyBulletin x = due.having(FORECAST, 31);
+        Sky x = due.having(FORECAST, 31);
         told(x, 2, 6, 29 * 1440 + 660, -1001, -1001, -1001, 'L', 'F', 'P', 'G');
     }
 
     private static void degrees() {
-        SkyBulletin x = due.having("METAR AZZA 010000Z 00000KT CAVOK M00/00 Q0000", 28);
+        Sky x = due.having("METAR AZZA 010000Z 00000KT CAVOK M00/00 Q0000", 28);
         told(x, 1, 1, 0, 0, 0, 0, 'A', 'Z', 'Z', 'A');
         told(due.having("METAR AZZA 312359Z 00000KT CAVOK 99/M99 Q9999", 31),
                 1, 1, 31 * 1440 - 1, 99, -99, 9999, 'A', 'Z', 'Z', 'A');
@@ -58,7 +58,7 @@ public final class ToldGroupTest {
     }
 
     private static void reportGroup() {
-        SkyBulletin x = due.having(REPORT, 31);
+        Sky x = due.having(REPORT, 31);
         group(x, 0, 0, 0, -1, -1, 240, 15, 27, 3000, 3, 4);
         group(x, 1, -1, -1, -1, -1, -1, -1, -1, -1, -1, -1);
         group(x, -1, -1, -1);
@@ -69,7 +69,7 @@ public final class ToldGroupTest {
     }
 
     private static void forecastGroups() {
-        SkyBulletin x = due.having(FORECAST, 31);
+        Sky x = due.having(FORECAST, 31);
         int day30 = 29 * 1440;
         int end = 30 * 1440 + 18 * 60;
         group(x, 0, 0, 0, day30 + 720, end, 240, 10, 0, 9999, 0, 1);
@@ -83,20 +83,20 @@ public final class ToldGroupTest {
 
     private static void nextMonth() {
         int month = 30 * 1440;
-        SkyBulletin x = due.having("TAF LFPG 302300Z 3018/0124 24010KT CAVOK FM010030 24010KT CAVOK "
+        Sky x = due.having("TAF LFPG 302300Z 3018/0124 24010KT CAVOK FM010030 24010KT CAVOK "
                 + "TEMPO 3023/0101 NSW TEMPO 0123/0124 NSW TEMPO 3023/3024 NSW", 30);
         group(x, 0, 0, 0, month - 360, month + 1440);
         group(x, 1, 1, 0, month + 30, month + 1440);
         group(x, 2, 3, 0, month - 60, month + 60);
         group(x, 3, 3, 0, month + 1380, month + 1440);
         group(x, 4, 3, 0, month - 60, month);
-        SkyBulletin y = due.having("TAF LFPG 302300Z 2912/3018 24010KT CAVOK BECMG 2912/2924 NSW", 30);
+        Sky y = due.having("TAF LFPG 302300Z 2912/3018 24010KT CAVOK BECMG 2912/2924 NSW", 30);
         group(y, 0, 0, 0, month + 28 * 1440 + 720, month + 29 * 1440 + 1080);
         group(y, 1, 2, 0, month + 28 * 1440 + 720, month + 29 * 1440);
     }
 
     private static void weatherNumbers() {
-        SkyBulletin x = due.having(REPORT, 31);
+        Sky x = due.having(REPORT, 31);
         due.is("weather -SHRA", x.weather(0, 0), 1 + 4 * 6 + 64 * 2);
         due.is("weather +TSRASNGR", x.weather(0, 1), 2 + 4 * 7 + 64 * 2 + 2048 * 3 + 65536 * 6);
         due.is("weather VCFG", x.weather(0, 2), 3 + 64 * 9);
@@ -124,7 +124,7 @@ public final class ToldGroupTest {
     }
 
     private static void cloudNumbers() {
-        SkyBulletin x = due.having(REPORT, 31);
+        Sky x = due.having(REPORT, 31);
         due.is("cloud SCT012", x.cloud(0, 0), 2 + 8 * 12);
         due.is("cloud BKN025CB", x.cloud(0, 1), 3 + 8 * 25 + 8192);
         due.is("cloud OVC100TCU", x.cloud(0, 2), 4 + 8 * 100 + 8192 * 2);
@@ -133,7 +133,7 @@ public final class ToldGroupTest {
             due.is("cloud(0, " + k + ")", x.cloud(0, k), -1);
             due.is("cloud(g, 0) of a group that is not", x.cloud(k, 0), -1);
         }
-        SkyBulletin y = due.having(FORECAST, 31);
+        Sky y = due.having(FORECAST, 31);
         due.is("cloud FEW030", y.cloud(0, 0), 1 + 8 * 30);
         due.is("cloud VV002", y.cloud(2, 0), 5 + 8 * 2);
         due.is("no cloud in CAVOK", y.cloud(3, 0), -1);
@@ -143,9 +143,9 @@ public final class ToldGroupTest {
     }
 
     private static void olderPartsAreGone() {
-        SkyBulletin x = due.having(REPORT, 31);
-        due.is("a forecast after it", Due.readInto(x, FORECAST, 31), 0);
-        due.is("a report after it", Due.readInto(x, "METAR AZZA 010000Z VRB02KT CAVOK M00/00 Q0000", 31), 0);
+        Sky x = due.having(REPORT, 31);
+        due.is("a forecast after it", x.readText(FORECAST, 31), 0);
+        due.is("a report after it", x.readText("METAR AZZA 010000Z VRB02KT CAVOK M00/00 Q0000", 31), 0);
         group(x, 0, 0, 0, -1, -1, -2, 2, 0, 10000, 0, 0);
         group(x, 1, -1, -1, -1, -1, -1, -1, -1, -1, -1, -1);
         due.is("no weather is left", x.weather(0, 0), -1);

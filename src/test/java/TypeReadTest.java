@@ -30,7 +30,7 @@ public final class TypeReadTest {
     }
 
     private static void newObject() {
-        SkyBulletin x = new SkyBulletin();
+        Sky x = new Sky();
         due.is("NONE", SkyBulletin.NONE, -1);
         due.is("new told(0)", x.told(0), 0);
         due.is("new told(1)", x.told(1), 0);
@@ -45,55 +45,55 @@ public final class TypeReadTest {
     }
 
     private static void typing() {
-        SkyBulletin x = new SkyBulletin();
+        Sky x = new Sky();
         due.is("type one", x.type('M', 1), 1);
-        due.is("type eight", x.type(Due.packed("ETAR EDD"), 8), 9);
+        due.is("type eight", x.type(Sky.packed("ETAR EDD"), 8), 9);
         due.is("type none", x.type('M', 0), -1);
         due.is("type minus one", x.type('M', -1), -1);
-        due.is("type nine", x.type(Due.packed("ETAR EDD"), 9), -1);
+        due.is("type nine", x.type(Sky.packed("ETAR EDD"), 9), -1);
         due.is("type 31", x.type(31, 1), -1);
         due.is("type 127", x.type(127, 1), -1);
         due.is("type 255", x.type(-1L, 1), -1);
-        due.is("a wrong one among right ones", x.type(Due.packed("A\u001fB"), 3), -1);
-        due.is("a wrong one at first", x.type(Due.packed("\u007fAB"), 3), -1);
+        due.is("a wrong one among right ones", x.type(Sky.packed("A\u001fB"), 3), -1);
+        due.is("a wrong one at first", x.type(Sky.packed("\u007fAB"), 3), -1);
         due.is("higher bytes are not looked at", x.type(-256L | 'M', 1), 10);
         due.is("a blank", x.type(32, 1), 11);
         due.is("126", x.type(126, 1), 12);
         due.is("what was typed", x.read(31), 12);
-        due.is("the highest first", Due.readInto(x, HEAD + "24015KT CAVOK" + TAIL, 31), 0);
+        due.is("the highest first", x.readText(HEAD + "24015KT CAVOK" + TAIL, 31), 0);
     }
 
     private static void typingTooMuch() {
-        SkyBulletin x = new SkyBulletin();
+        Sky x = new Sky();
         for (int i = 1; i <= 87; i++) {
-            x.type(Due.packed("        "), 8);
+            x.type(Sky.packed("        "), 8);
         }
-        due.is("696 and 5", x.type(Due.packed("     "), 5), -1);
-        due.is("696 and 4", x.type(Due.packed("    "), 4), 700);
+        due.is("696 and 5", x.type(Sky.packed("     "), 5), -1);
+        due.is("696 and 4", x.type(Sky.packed("    "), 4), 700);
         due.is("700 and 1", x.type(32, 1), -1);
         due.is("700 blanks", x.read(31), 701);
         due.is("empty then", x.type(32, 1), 1);
     }
 
     private static void readingEmpties() {
-        SkyBulletin x = new SkyBulletin();
+        Sky x = new Sky();
         due.is("nothing typed", x.read(31), 1);
-        due.is("a text", Due.readInto(x, CALM + "CAVOK" + TAIL, 31), 0);
+        due.is("a text", x.readText(CALM + "CAVOK" + TAIL, 31), 0);
         due.is("empty after 0", x.read(31), 1);
-        due.is("a wrong text", Due.readInto(x, FORECAST + "FM", 31), 45);
+        due.is("a wrong text", x.readText(FORECAST + "FM", 31), 45);
         due.is("empty after a wrong one", x.read(31), 1);
         due.is("all stays: told(0)", x.told(0), 1);
         due.is("all stays: group(0, 5)", x.group(0, 5), 15);
         due.is("all stays: group(0, 2)", x.group(0, 2), -1);
-        due.is("all stays: print()", Due.printed(x), CALM + "CAVOK" + TAIL);
-        due.is("the next one", Due.readInto(x, FORECAST, 31), 0);
+        due.is("all stays: print()", x.printed(), CALM + "CAVOK" + TAIL);
+        due.is("the next one", x.readText(FORECAST, 31), 0);
         due.is("takes its place", x.told(0), 2);
         due.is("and its degrees", x.told(3), -1001);
     }
 
     private static void readingWrongDays() {
-        SkyBulletin x = new SkyBulletin();
-        Due.put(x, CALM + "CAVOK" + TAIL);
+        Sky x = new Sky();
+        x.put(CALM + "CAVOK" + TAIL);
         for (int days : new int[] {27, 32, 0, -1, Integer.MIN_VALUE, Integer.MAX_VALUE}) {
             due.is("read(" + days + ")", x.read(days), -1);
         }
