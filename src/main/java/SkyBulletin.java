@@ -539,7 +539,7 @@ public final class SkyBulletin {
         private int days = 0;
         private int latestFrom = NONE;
         /** What is being read: a text that can't stand must leave the kept one as it was. */
-        private Bulletin draft = new Bulletin();
+        Bulletin draft = new Bulletin();
 
         /** Hands out what was read, and takes one that is not kept any more to read into. */
         Bulletin exchange(Bulletin spare) {

@@ -228,19 +228,32 @@ public final class CallEdgesTest {
     private static void readingTakesThePlace() {
         due.sentence("Reads the typed text for a month of so many days: 0, and it takes the place of the one read before;");
         String[] texts = {REPORT, FORECAST, "METAR AAAA 010000Z VRB00KT CAVOK 00/00 Q0000", HEAD + "BECMG 1508/1510 NSW",
-            "TAF ZZZZ 010000Z 0100/0101 00000KT 0000 VV000"};
-        int[] minutes = {0, 59, DAY + 480};
+            HEAD + "BECMG 1506/1507 NSW TEMPO 1508/1509 NSW", "TAF ZZZZ 010000Z 0100/0101 00000KT 0000 VV000",
+            "TAF LFPG 150500Z 1506/1518 24010KT 5000 FEW001",
+            "TAF LFPG 150500Z 1506/1518 24010KT 5000 BKN001 BKN002 BKN003 BKN004 PROB30 1506/1510 1000 VV000 "
+                + "FM150700 VRB01KT 2000 OVC000 BECMG 1506/1507 3000 DZ RA SN TEMPO 1507/1509 0001"};
+        int[] minutes = {0, 59, BEGIN, DAY + 480};
         for (String before : texts) {
             for (String text : texts) {
                 Sky x = due.having(before, 31);
                 due.is("read(31) of '" + text + "'", x.readText(text, 31), 0);
                 due.is("all of '" + text + "'", x.sight(minutes), due.having(text, 31).sight(minutes));
                 due.is("print()", x.print(), text.length());
+                usedAgain(before, text, minutes);
             }
         }
         for (int days = 28; days <= 31; days++) {
             due.stands("METAR AAAA " + days + "0000Z VRB00KT CAVOK 00/00 Q0000", days);
         }
+    }
+
+    /** An object may use the rows of a text that is not kept any more for the next but one. */
+    private static void usedAgain(String before, String text, int[] minutes) {
+        Sky x = due.having(before, 31);
+        due.is("read(31) of '" + before + "' again", x.readText(before, 31), 0);
+        due.is("read(31) of '" + before + "' again", x.readText(before, 31), 0);
+        due.is("read(31) of '" + text + "'", x.readText(text, 31), 0);
+        due.is("all of '" + text + "' behind three", x.sight(minutes), due.having(text, 31).sight(minutes));
     }
 
     private static void readingEmpties() {
@@ -430,7 +443,11 @@ public final class CallEdgesTest {
         for (Sky x : new Sky[] {new Sky(), report, due.having(FORECAST, 31), due.having(FULL, 31)}) {
             int count = x.told(1);
             groupAll(x, -1, -1, -1, -1, -1, -1, -1, -1, -1, -1, -1);
-            groupAll(x, count, -1, -1, -1, -1, -1, -1, -1, -1, -1, -1);
+            for (int g = count; g < 12; g++) {
+                groupAll(x, g, -1, -1, -1, -1, -1, -1, -1, -1, -1, -1);
+                due.is("weather(" + g + ", 0)", x.weather(g, 0), -1);
+                due.is("cloud(" + g + ", 0)", x.cloud(g, 0), -1);
+            }
             for (int g : FAR) {
                 due.is("group(" + g + ", 0)", x.group(g, 0), -1);
                 due.is("group(" + g + ", 7)", x.group(g, 7), -1);
@@ -689,6 +706,10 @@ public final class CallEdgesTest {
         turns("BECMG 1506/1518 CAVOK");
         turns("BECMG 1517/1518 CAVOK");
         turns("BECMG 1506/1509 CAVOK FM150800 24010KT CAVOK", DAY + 480);
+        turns("BECMG 1507/1509 NSW FM150859 24010KT CAVOK", DAY + 539);
+        turns("FM150859 24010KT CAVOK BECMG 1509/1512 NSW", DAY + 539, DAY + 720);
+        turns("FM150901 24010KT CAVOK BECMG 1506/1507 24010KT CAVOK", DAY + 420);
+        turns("FM150901 24010KT CAVOK BECMG 1506/1507 24010KT CAVOK TEMPO 1509/1510 NSW", DAY + 420, DAY + 540, DAY + 600);
         turns("BECMG 1506/1508 NSW BECMG 1506/1507 NSW", DAY + 420);
         turns("BECMG 1506/1508 NSW NSC BECMG 1506/1507 NSW", DAY + 420, DAY + 480);
     }

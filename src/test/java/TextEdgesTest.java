@@ -125,6 +125,9 @@ public final class TextEdgesTest {
             due.endsTooEarly(before.trim(), 31);
             due.refuses(before + "^" + behind, 31);
             due.refuses(before + tokens[i] + " ^" + tokens[i] + " " + behind, 31);
+            if (i < tokens.length - 1) {
+                due.refuses("^" + behind, 31);
+            }
         }
     }
 
@@ -433,9 +436,9 @@ public final class TextEdgesTest {
         due.sentence("period: dddd/dddd, from a day and an hour 00 .. 23 to a day and an hour 00 .. 24 (days as above).");
         String rest = " 24010KT CAVOK";
         for (int hour = 0; hour < 100; hour++) {
-            period(hour <= 23, "TAF LFPG 150000Z ", String.format("15%02d/1600", hour), rest, 31);
+            period(hour <= 23, "TAF LFPG 150000Z ", String.format("15%02d/1606", hour), rest, 31);
             period(hour <= 24, "TAF LFPG 140000Z ", String.format("1423/15%02d", hour), rest, 31);
-            period(hour <= 23, "TAF LFPG 150000Z 1500/1600 24010KT CAVOK TEMPO ", String.format("15%02d/1600", hour),
+            period(hour <= 23, "TAF LFPG 150000Z 1500/1606 24010KT CAVOK TEMPO ", String.format("15%02d/1606", hour),
                     " NSW", 31);
             period(hour <= 24, "TAF LFPG 140000Z 1423/1524 24010KT CAVOK TEMPO ", String.format("1423/15%02d", hour),
                     " NSW", 31);
